@@ -458,6 +458,7 @@ public final class WokenRooms {
         int timeOut;
         int guess;
         int state;
+        // The ticks left count only while it is waking or in use, those idled only while it is awake.
         int left;
         int idled;
         int begun;
@@ -466,7 +467,7 @@ public final class WokenRooms {
         int latestEnd;
         int gap;
 
-        /** Takes back all that an earlier room at this number, now undone, has left; costs are set next. */
+        /** Makes it a new room, with nothing of an earlier one at its number that was undone; its costs are set next. */
         void startAnew(int newKind) {
             for (int i = 0; i < PAYMENTS; i++) {
                 paid[i] = 0;
@@ -545,12 +546,6 @@ public final class WokenRooms {
             woken++;
         }
 
-        void fallAsleep() {
-            state = ASLEEP;
-            left = 0;
-            idled = 0;
-        }
-
         void begin(int now, int due, int length) {
             if (begun > 0) {
                 gap = now - latestEnd;
@@ -588,7 +583,6 @@ public final class WokenRooms {
         void workOn() {
             left--;
             if (left <= 0) {
-                left = 0;
                 state = AWAKE;
                 idled = 0;
             }
@@ -915,9 +909,8 @@ public final class WokenRooms {
             if (room.state != AWAKE || hasDependentsUp(number)) {
                 return NOT_POSSIBLE;
             }
-            int idled = room.idled;
-            room.fallAsleep();
-            return idled;
+            room.state = ASLEEP;
+            return room.idled;
         }
 
         int letTicksGoBy(int ticks) {
@@ -996,7 +989,7 @@ public final class WokenRooms {
             } else if (room.state == AWAKE) {
                 room.idled++;
                 if (room.isTimedOut() && !hasDependentsUp(number)) {
-                    room.fallAsleep();
+                    room.state = ASLEEP;
                 }
             }
         }

@@ -6,6 +6,7 @@ public final class EnergyTest {
         promise19LateBits();
         promise20WorthBits();
         promise21Count();
+        promise21EightRooms();
         Check.end();
     }
 
@@ -46,6 +47,10 @@ public final class EnergyTest {
         x.wake(0);
         x.tick(3);
         Check.due("nothing paid", x.shareBits(), Check.NOT_FOUND);
+        WokenRooms y = new WokenRooms();
+        y.room(0, 0, 1, 1, 0, 1);
+        y.tick(1);
+        Check.dueBits("1 paid, asleep", y.shareBits(), 0f);
         x.use(0, 3, 50);
         x.tick(1);
         Check.dueBits("all in use", x.shareBits(), 1f);
@@ -144,5 +149,32 @@ public final class EnergyTest {
         for (int what : wrong) {
             Check.due("count " + what, x.count(what), Check.INVALID);
         }
+    }
+
+    private static void promise21EightRooms() {
+        WokenRooms x = new WokenRooms();
+        for (int i = 0; i < 8; i++) {
+            Check.plugged(x, i % 2, 1);
+            x.use(i, 1, 3);
+        }
+        x.limit(0, 4);
+        x.limit(1, 4);
+        x.wake(0);
+        x.wake(7);
+        Check.due("6 asleep", x.count(3), 6);
+        Check.due("2 waking", x.count(4), 2);
+        Check.due("paid for waking", x.count(7), 20);
+        Check.due("2 begin", x.tick(2), 2);
+        Check.due("others are awake", x.count(5), 6);
+        Check.due("in use", x.count(6), 2);
+        Check.due("6 begin", x.tick(1), 6);
+        Check.due("all in use", x.count(6), 8);
+        Check.due("late", x.count(9), 6);
+        Check.due("begun", x.count(8), 8);
+        // Two were used for 2 ticks, six asleep for 1 and used for 1.
+        Check.due("paid", x.count(7), 80 + 20 + 6 + 30);
+        Check.dueBits("share", x.shareBits(), 50f / 136f);
+        Check.due("the last room's part of it", x.energy(7, 4), 20);
+        Check.due("ahead", x.ahead(2, 0), 2 * 8 + 6 * 10);
     }
 }

@@ -10,6 +10,9 @@ public final class ForecastTest {
         promise25Undo();
         promise25ErrorsAreNoChanges();
         promise25AllChangesCount();
+        promise25AllIsRestored();
+        promise25OneByOne();
+        promise25Guess();
         promise25RoomAgain();
         Check.end();
     }
@@ -101,10 +104,13 @@ public final class ForecastTest {
         y.wake(0);
         y.tick(1);
         y.use(0, 1 + 20, 1);
-        Check.due("20 is not enough", y.bestTimeOut(0, 30, 0), 0);
+        Check.due("20 is not enough", y.bestTimeOut(0, 60, 0), 0);
+        Check.due("awake all the time", y.bestTimeOut(0, 60, 1), 60);
+        Check.due("1 tick", y.bestTimeOut(0, 1, 1), 1);
         y.drop(0);
         y.use(0, 1 + 19, 1);
         Check.due("20 waits", y.bestTimeOut(0, 60, 0), 20);
+        Check.due("and sleeps then", y.bestTimeOut(0, 60, 1), 19 + 1 + 20);
     }
 
     private static void promise24BeginsIn() {
@@ -231,6 +237,135 @@ public final class ForecastTest {
         Check.due("planned again", x.useOf(0, 1), 7);
     }
 
+    /** Rooms in all states, of which room 0 has begun three uses, and room 4 needs room 1. */
+    private static WokenRooms busyChip() {
+        WokenRooms x = new WokenRooms();
+        for (int i = 0; i < 6; i++) {
+            Check.plugged(x, i % 2, 2 + i);
+        }
+        x.room(1, 77, 20, 49, 48, 19);
+        x.need(4, 1);
+        x.limit(0, 3);
+        x.policy(0, 90, 2);
+        x.policy(4, 30, 1);
+        x.use(0, 0, 2);
+        x.use(0, 6, 2);
+        x.use(0, 11, 9);
+        x.use(3, 40, 1);
+        x.use(4, 50, 2);
+        x.wake(1);
+        x.tick(14);
+        x.wake(2);
+        x.wake(3);
+        return x;
+    }
+
+    /** All that can be asked of a chip but the states in its history. */
+    private static String allOf(WokenRooms x) {
+        StringBuilder out = new StringBuilder();
+        for (int room = 0; room < 8; room++) {
+            for (int what = 0; what < 14; what++) {
+                out.append(x.roomOf(room, what)).append(' ');
+                out.append(x.costOf(room, what)).append(' ');
+                out.append(x.energy(room, what)).append(' ');
+            }
+            out.append(x.lateBits(room)).append(' ').append(x.beginsIn(room)).append('\n');
+        }
+        for (int number = 0; number < 12; number++) {
+            for (int what = 0; what < 4; what++) {
+                out.append(x.useOf(number, what)).append(' ');
+            }
+        }
+        for (int what = 0; what < 22; what++) {
+            out.append(what == 10 ? 0 : x.count(what)).append(' ');
+        }
+        return out.append(x.pluggedAt(0, 2)).append(' ').append(x.pluggedAt(1, 2)).toString();
+    }
+
+    private static int change(WokenRooms x, int which) {
+        switch (which) {
+            case 0:
+                return x.room(1, 2, 3, 4, 5, 6);
+            case 1:
+                return x.need(4, 3);
+            case 2:
+                return x.plug(6, 1);
+            case 3:
+                return x.unplug(4);
+            case 4:
+                return x.limit(1, 4);
+            case 5:
+                return x.policy(2, 4, 1);
+            case 6:
+                return x.use(5, x.count(2) + 20, 7);
+            case 7:
+                return x.drop(0);
+            case 8:
+                return x.wake(4);
+            case 9:
+                return x.sleep(1);
+            case 10:
+                return x.tick(60);
+            default:
+                return x.play();
+        }
+    }
+
+    /** Each kind of change, undone on a chip whose history is full. */
+    private static void promise25AllIsRestored() {
+        for (int which = 0; which < 12; which++) {
+            WokenRooms x = busyChip();
+            Check.write(x, "t200;u2,3,4;");
+            String before = allOf(x);
+            Check.due("change " + which + " is possible", change(x, which) >= 0 ? 1 : 0, 1);
+            Check.due("change " + which + " changes something", before.equals(allOf(x)) ? 1 : 0, 0);
+            Check.due("undo of change " + which, x.undo(), 3);
+            Check.due("change " + which + " is undone", before.equals(allOf(x)) ? 1 : 0, 1);
+        }
+    }
+
+    /** Changes in a row, undone one by one up to the fourth. */
+    private static void promise25OneByOne() {
+        for (int first = 0; first < 12; first++) {
+            WokenRooms x = busyChip();
+            Check.write(x, "t1;u2,3,4;");
+            String[] before = new String[6];
+            int[] possible = {first, 4, 5, 6, 10};
+            for (int i = 0; i < possible.length; i++) {
+                before[i] = allOf(x);
+                Check.due("change " + possible[i], change(x, possible[i]) >= 0 ? 1 : 0, 1);
+            }
+            for (int i = possible.length - 1; i > 0; i--) {
+                Check.due("undo " + i, x.undo(), i - 1);
+                Check.due("undone " + i, before[i].equals(allOf(x)) ? 1 : 0, 1);
+            }
+            Check.due("the oldest one was dropped", x.undo(), Check.NOT_POSSIBLE);
+        }
+    }
+
+    /** The gap and the end of the latest use are restored, by which the guess 2 calls. */
+    private static void promise25Guess() {
+        WokenRooms x = new WokenRooms();
+        Check.plugged(x, 0, 2);
+        x.policy(0, 0, 2);
+        x.use(0, 0, 2);
+        x.use(0, 10, 2);
+        x.tick(12);
+        Check.due("uses from 2 to 4 and from 10 to 12", x.roomOf(0, 13), 6);
+        x.use(0, 12, 3);
+        x.tick(1);
+        Check.due("a third begins", x.roomOf(0, 13), 0);
+        x.undo();
+        Check.due("it is undone", x.roomOf(0, 13), 6);
+        x.undo();
+        x.sleep(0);
+        x.tick(4);
+        Check.due("called at 12 + 6 - 2", x.roomOf(0, 12), 1);
+        x.tick(1);
+        Check.due("and woken", x.roomOf(0, 1), 1);
+    }
+
+    /** A room whose number belonged to one that is undone has nothing of that one. */
     private static void promise25RoomAgain() {
         WokenRooms x = new WokenRooms();
         Check.plugged(x, 0, 1);
@@ -247,5 +382,20 @@ public final class ForecastTest {
         Check.due("no time-out", x.roomOf(1, 6), 0);
         Check.due("no guess", x.roomOf(1, 7), 0);
         Check.due("its own costs", x.costOf(1, 4), 5);
+        WokenRooms y = new WokenRooms();
+        y.room(0, 9, 2, 9, 9, 9);
+        y.plug(0, 0);
+        y.policy(0, 9, 2);
+        Check.write(y, "u0,0,2;u0,9,3;t20;t200;w0;");
+        Check.due("used twice and woken again", y.play(), 5);
+        Check.due("used twice", y.roomOf(0, 9), 2);
+        for (int left = 3; left >= 0; left--) {
+            Check.due("undo", y.undo(), left);
+        }
+        y.clearText();
+        y.room(1, 5, 5, 5, 5, 5);
+        WokenRooms fresh = new WokenRooms();
+        fresh.room(1, 5, 5, 5, 5, 5);
+        Check.due("like a new one", allOf(y).equals(allOf(fresh)) ? 1 : 0, 1);
     }
 }

@@ -240,7 +240,9 @@ public final class RoomsAndRailsTest {
         x.use(0, 9, 2);
         x.tick(1);
         Check.due("one has begun", x.roomOf(0, 13), Check.NOT_FOUND);
-        x.tick(6);
+        x.tick(2);
+        Check.due("one has begun: not called by a gap", x.roomOf(0, 12), 0);
+        x.tick(4);
         Check.due("not yet", x.roomOf(0, 13), Check.NOT_FOUND);
         x.tick(1);
         // The first use lasts from 2 to 5, the second from 9 to 11: the gap is 4, the call 11 + 4 - 2.
@@ -293,6 +295,10 @@ public final class RoomsAndRailsTest {
         Check.due("memory", x.pluggedAt(1, 0), 3);
         Check.due("not so many there", x.pluggedAt(1, 1), Check.NOT_FOUND);
         Check.due("far behind", x.pluggedAt(1, Integer.MAX_VALUE), Check.NOT_FOUND);
+        x.plug(0, 1);
+        Check.due("room 0 is lowest", x.pluggedAt(1, 0), 0);
+        x.unplug(0);
+        Check.due("lowest without it", x.pluggedAt(1, 0), 3);
         Check.due("index -1", x.pluggedAt(0, -1), Check.INVALID);
         Check.due("no rail 2", x.pluggedAt(2, 0), Check.INVALID);
         Check.due("no rail -1", x.pluggedAt(-1, 0), Check.INVALID);

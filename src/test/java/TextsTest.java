@@ -7,6 +7,8 @@ public final class TextsTest {
         promise28BadForms();
         promise28Refused();
         promise28ThoseAheadAreDone();
+        promise28OldSigns();
+        promise28Full();
         promise28Ranges();
         promise29Play();
         promise29OneChange();
@@ -117,6 +119,28 @@ public final class TextsTest {
         Check.write(x, "t10;t1;");
         Check.due("behind 50000", x.fault(0), 4);
         Check.due("cause of this", x.fault(2), Check.LIMIT);
+    }
+
+    private static void promise28OldSigns() {
+        WokenRooms x = twoRooms();
+        Check.write(x, "w0;t2;");
+        Check.write(x, "w0");
+        Check.due("the ; of the text before does not count", x.fault(1), 1);
+        Check.write(x, "w");
+        Check.due("nor does its digit", x.fault(1), 1);
+        Check.write(x, "w0;");
+        Check.due("nor do its orders", x.play(), 1);
+    }
+
+    private static void promise28Full() {
+        WokenRooms x = twoRooms();
+        Check.write(x, "t1;t1;t1;t1;t1;t1;t1;t1;t1;t1;t1;t1;t1;t1;t1;t1;t1;t1;t1;t10");
+        Check.due("no ; within 60", x.fault(0), 57);
+        Check.due("reason", x.fault(1), 1);
+        Check.write(x, "t1;t1;t1;t1;t1;t1;t1;t1;t1;t1;t1;t1;t1;t1;t1;t1;t1;t1;t1;u0,");
+        Check.due("no digit within 60", x.fault(0), 57);
+        Check.write(x, "t1;t1;t1;t1;t1;t1;t1;t1;t1;t1;t1;t1;t1;t1;t1;t1;t1;t1;t01;t");
+        Check.due("reason again", x.fault(1), 1);
     }
 
     private static void promise28Ranges() {
