@@ -359,7 +359,7 @@ public final class WokenRooms {
         if (outside(what, 0, 2)) {
             return INVALID_ARGUMENT;
         }
-        tryOrders();
+        orders.tryOn(trial, chip);
         if (orders.reason == NO_FAULT || what == 2 && orders.reason == BAD_FORM) {
             return NOT_FOUND;
         }
@@ -375,7 +375,7 @@ public final class WokenRooms {
 
     /** Does all orders of the text, and returns how many there are. */
     public int play() {
-        tryOrders();
+        orders.tryOn(trial, chip);
         if (orders.reason != NO_FAULT) {
             return NOT_POSSIBLE;
         }
@@ -423,11 +423,6 @@ public final class WokenRooms {
         trial.rooms[room].timeOut = timeOut;
         trial.passTicks(ticks);
         return trial.paidInAll() - chip.paidInAll();
-    }
-
-    private void tryOrders() {
-        trial.copyFrom(chip);
-        orders.runOn(trial);
     }
 
     /** The bits of a float that is 0 or a normal one above: the library's own call is ruled out. */
@@ -856,29 +851,25 @@ public final class WokenRooms {
 
         boolean isReady(int number) {
             int needed = rooms[number].needed;
-            if (!hasRoom(needed)) {
+            if (needed < 0 || needed >= roomCount) {
                 return true;
             }
-            int state = rooms[needed].state;
-            return state == AWAKE || state == IN_USE;
+            return rooms[needed].state == AWAKE || rooms[needed].state == IN_USE;
         }
 
-        boolean canBeWoken(int number) {
-            Room room = rooms[number];
-            if (room.state != ASLEEP || outside(room.rail, 0, RAILS - 1) || !isReady(number)) {
+        /** Whether the room is plugged into a rail on which fewer rooms are waking than its limit tells. */
+        boolean railLetsWake(int number) {
+            int rail = rooms[number].rail;
+            if (rail < 0 || rail >= RAILS) {
                 return false;
             }
-            return wakingOn(room.rail) < limits[room.rail];
-        }
-
-        int wakingOn(int rail) {
             int waking = 0;
             for (int i = 0; i < roomCount; i++) {
                 if (rooms[i].rail == rail && rooms[i].state == WAKING) {
                     waking++;
                 }
             }
-            return waking;
+            return waking < limits[rail];
         }
 
         boolean hasDependentsUp(int number) {
@@ -894,11 +885,12 @@ public final class WokenRooms {
             if (!hasRoom(number)) {
                 return INVALID_ARGUMENT;
             }
-            if (!canBeWoken(number)) {
+            Room room = rooms[number];
+            if (room.state != ASLEEP || !isReady(number) || !railLetsWake(number)) {
                 return NOT_POSSIBLE;
             }
-            rooms[number].startWaking();
-            return rooms[number].costs[WAKE_TIME];
+            room.startWaking();
+            return room.costs[WAKE_TIME];
         }
 
         int sendToSleep(int number) {
@@ -921,7 +913,10 @@ public final class WokenRooms {
                 return LIMIT_REACHED;
             }
             int begunBefore = begunInAll();
-            passTicks(ticks);
+            // A loop of its own, since calls through texts are deep here already (LANGUAGE.md, rule 11).
+            for (int i = 0; i < ticks; i++) {
+                passTick();
+            }
             return begunInAll() - begunBefore;
         }
 
@@ -934,7 +929,9 @@ public final class WokenRooms {
         /** One tick, in the document's steps: all rooms take a step before the next one is taken. */
         void passTick() {
             for (int i = 0; i < roomCount; i++) {
-                answerCall(i);
+                if (rooms[i].state == ASLEEP && isCalled(i)) {
+                    wakeIfPossible(soughtFor(i));
+                }
                 beginDueUse(i);
             }
             for (int i = 0; i < roomCount; i++) {
@@ -944,16 +941,6 @@ public final class WokenRooms {
                 goOn(i);
             }
             time++;
-        }
-
-        void answerCall(int number) {
-            if (rooms[number].state != ASLEEP || !isCalled(number)) {
-                return;
-            }
-            int sought = soughtFor(number);
-            if (hasRoom(sought) && canBeWoken(sought)) {
-                rooms[sought].startWaking();
-            }
         }
 
         /** The room to wake for an asleep one: itself, or the next asleep one down its needs that is ready. */
@@ -969,6 +956,12 @@ public final class WokenRooms {
                 sought = rooms[sought].needed;
             }
             return NONE;
+        }
+
+        void wakeIfPossible(int sought) {
+            if (hasRoom(sought) && railLetsWake(sought)) {
+                rooms[sought].startWaking();
+            }
         }
 
         void beginDueUse(int number) {
@@ -1023,8 +1016,9 @@ public final class WokenRooms {
             return before;
         }
 
-        /** Does the orders on the chip, up to the first one that is not possible. */
-        void runOn(Chip chip) {
+        /** Does the orders on a trial of the chip, up to the first one that is not possible. */
+        void tryOn(Chip trial, Chip chip) {
+            trial.copyFrom(chip);
             next = 0;
             done = 0;
             reason = NO_FAULT;
@@ -1034,7 +1028,7 @@ public final class WokenRooms {
                     setFault(start, BAD_FORM, 0);
                     return;
                 }
-                int answer = perform(chip);
+                int answer = perform(trial);
                 if (answer < 0) {
                     setFault(start, REFUSED, answer);
                     return;
