@@ -462,7 +462,7 @@ public final class WokenRooms {
         int latestEnd;
         int gap;
 
-        /** Makes it a new room, with nothing of an earlier one at its number that was undone; its costs are set next. */
+        /** Makes it a new room, with nothing of an undone one at its number; its costs are set next. */
         void startAnew(int newKind) {
             for (int i = 0; i < PAYMENTS; i++) {
                 paid[i] = 0;
