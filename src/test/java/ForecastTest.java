@@ -1,19 +1,18 @@
-/** Promises 22 to 25: what would be, and the history. */
+/** Promises 22 to 24: what would be. */
 public final class ForecastTest {
     public static void main(String[] args) {
         promise22Ahead();
+        promise22EachTick();
+        promise22WithoutRooms();
         promise22BeyondTheLastTime();
         promise23BestTimeOut();
         promise23Ranges();
+        promise23LowestOfSeveral();
+        promise23OtherRoomsPayToo();
         promise24BeginsIn();
         promise24Waits();
-        promise25Undo();
-        promise25ErrorsAreNoChanges();
-        promise25AllChangesCount();
-        promise25AllIsRestored();
-        promise25OneByOne();
-        promise25Guess();
-        promise25RoomAgain();
+        promise24ByNeedsAndGuesses();
+        forecastsAreTrue();
         Check.end();
     }
 
@@ -46,6 +45,42 @@ public final class ForecastTest {
         Check.due("ticks 201", x.ahead(201, 0), Check.INVALID);
         Check.due("what 3", x.ahead(1, 3), Check.INVALID);
         Check.due("what -1", x.ahead(1, -1), Check.INVALID);
+    }
+
+    /** A use that begins in the last one of the ticks counts, one that begins in the tick behind does not. */
+    private static void promise22EachTick() {
+        WokenRooms x = new WokenRooms();
+        Check.plugged(x, 0, 3);
+        x.wake(0);
+        x.use(0, 50, 2);
+        x.use(0, 50, 5);
+        x.use(0, 199, 1);
+        x.use(0, 200, 1);
+        int[] ticks = {1, 50, 51, 52, 53, 199, 200};
+        int[] begin = {0, 0, 1, 1, 2, 2, 3};
+        int[] late = {0, 0, 0, 0, 2, 2, 2};
+        for (int i = 0; i < ticks.length; i++) {
+            Check.due("begin in " + ticks[i], x.ahead(ticks[i], 2), begin[i]);
+            Check.due("late in " + ticks[i], x.ahead(ticks[i], 1), late[i]);
+        }
+        Check.due("waking was paid already", x.ahead(3, 0), 0);
+        Check.due("1 tick awake", x.ahead(4, 0), 3);
+        Check.due("200 ticks", x.ahead(200, 0), 8 * 5 + 189 * 3);
+        x.tick(1);
+        Check.due("200 ticks from 1 on", x.ahead(200, 2), 4);
+        Check.due("late, the last one too", x.ahead(200, 1), 2);
+    }
+
+    private static void promise22WithoutRooms() {
+        WokenRooms x = new WokenRooms();
+        for (int what = 0; what < 3; what++) {
+            Check.due("1 tick", x.ahead(1, what), 0);
+            Check.due("200 ticks", x.ahead(200, what), 0);
+        }
+        x.room(0, 0, 1, 1, 0, 0);
+        x.room(1, 500, 20, 50, 50, 20);
+        Check.due("1 tick asleep", x.ahead(1, 0), 20);
+        Check.due("200 ticks asleep", x.ahead(200, 0), 4000);
     }
 
     private static void promise22BeyondTheLastTime() {
@@ -113,6 +148,63 @@ public final class ForecastTest {
         Check.due("and sleeps then", y.bestTimeOut(0, 60, 1), 19 + 1 + 20);
     }
 
+    /** Room 0 waits for its use at 9 with a time-out of 8 or more; from then on room 1 keeps it awake up to 40. */
+    private static void promise23LowestOfSeveral() {
+        WokenRooms x = new WokenRooms();
+        x.room(0, 40, 2, 5, 3, 1);
+        x.plug(0, 0);
+        Check.plugged(x, 1, 2);
+        x.need(1, 0);
+        x.wake(0);
+        x.tick(3);
+        x.use(0, 9, 1);
+        x.use(1, 10, 28);
+        x.policy(1, 1, 0);
+        int best = x.bestTimeOut(0, 200, 1);
+        Check.due("of several the lowest", x.bestTimeOut(0, 200, 0), 8);
+        int[] timeOuts = {8, 9, 20};
+        for (int timeOut : timeOuts) {
+            x.policy(0, timeOut, 0);
+            Check.due("all of them are best", x.ahead(200, 0), best);
+        }
+        x.policy(0, 7, 0);
+        Check.holds("a lower one is worse", x.ahead(200, 0) > best);
+        x.policy(0, 0, 0);
+        Check.holds("none is worse", x.ahead(200, 0) > best);
+        Check.due("the one set is of no account", x.bestTimeOut(0, 200, 0), 8);
+        x.policy(0, 99, 0);
+        Check.due("nor is a high one", x.bestTimeOut(0, 200, 0), 8);
+        WokenRooms y = new WokenRooms();
+        y.room(0, 0, 1, 1, 2, 2);
+        y.plug(0, 0);
+        y.policy(0, 5, 0);
+        y.wake(0);
+        y.tick(1);
+        Check.due("all are best", y.bestTimeOut(0, 200, 0), 0);
+        Check.due("their energy", y.bestTimeOut(0, 200, 1), 400);
+    }
+
+    /** "by which all rooms would pay least": room 1 can fall asleep only behind room 2, which needs it. */
+    private static void promise23OtherRoomsPayToo() {
+        WokenRooms x = new WokenRooms();
+        Check.plugged(x, 0, 1);
+        x.room(0, 0, 1, 1, 50, 0);
+        x.plug(1, 0);
+        x.room(1, 0, 1, 1, 1, 2);
+        x.plug(2, 1);
+        x.need(2, 1);
+        x.policy(1, 1, 0);
+        x.wake(1);
+        x.tick(1);
+        x.wake(2);
+        x.tick(1);
+        // Room 2 alone would pay more asleep than awake; room 1 pays 50 a tick up to its sleep.
+        Check.due("for all rooms", x.bestTimeOut(2, 10, 0), 1);
+        Check.due("their energy", x.bestTimeOut(2, 10, 1), 10 + 1 + 9 * 2 + 2 * 50);
+        Check.due("in 1 tick", x.bestTimeOut(2, 1, 0), 0);
+        Check.due("its energy", x.bestTimeOut(2, 1, 1), 1 + 1 + 50);
+    }
+
     private static void promise24BeginsIn() {
         WokenRooms x = new WokenRooms();
         Check.plugged(x, 0, 4);
@@ -150,252 +242,59 @@ public final class ForecastTest {
         Check.due("plugged into none", y.beginsIn(0), Check.NOT_FOUND);
     }
 
-    private static void promise25Undo() {
+    private static void promise24ByNeedsAndGuesses() {
         WokenRooms x = new WokenRooms();
-        Check.due("empty", x.undo(), Check.NOT_POSSIBLE);
-        Check.plugged(x, 0, 2);
-        x.use(0, 1, 2);
-        x.type('t');
-        x.tick(2);
-        x.tick(3);
-        Check.due("4 are kept", x.count(10), 4);
-        x.policy(0, 5, 1);
-        Check.due("the oldest is dropped", x.count(10), 4);
-        Check.due("undo policy", x.undo(), 3);
-        Check.due("time-out", x.roomOf(0, 6), 0);
-        Check.due("time", x.count(2), 5);
-        Check.due("begun", x.count(8), 1);
-        Check.due("undo tick 3", x.undo(), 2);
-        Check.due("time before", x.count(2), 2);
-        Check.due("waking", x.roomOf(0, 4), 1);
-        Check.due("undo tick 2", x.undo(), 1);
-        Check.due("asleep", x.roomOf(0, 1), 0);
-        Check.due("nothing paid", x.count(7), 0);
-        Check.due("undo use", x.undo(), 0);
-        Check.due("no use", x.count(1), 0);
-        Check.due("plugged still", x.roomOf(0, 3), 0);
-        Check.due("no more", x.undo(), Check.NOT_POSSIBLE);
-        Check.due("the text stays", x.count(11), 1);
-        x.tick(1);
-        Check.due("goes on", x.count(10), 1);
-    }
-
-    private static void promise25ErrorsAreNoChanges() {
-        WokenRooms x = new WokenRooms();
-        x.room(0, 1, 1, 1, 1, 1);
-        x.need(0, 0);
-        x.plug(0, 1);
-        x.unplug(0);
-        x.limit(0, 5);
-        x.policy(0, 100, 0);
-        x.use(0, -1, 1);
-        x.drop(0);
-        x.wake(0);
-        x.sleep(0);
-        x.tick(0);
-        x.undo();
-        x.type('?');
-        x.play();
-        Check.due("none was a change", x.count(10), 0);
-        x.clearText();
-        x.fault(0);
-        x.ahead(5, 0);
-        Check.due("nor are these", x.undo(), Check.NOT_POSSIBLE);
-        Check.due("the room is undone", x.count(0), 0);
-    }
-
-    private static void promise25AllChangesCount() {
-        WokenRooms x = new WokenRooms();
-        x.room(0, 1, 1, 1, 1, 1);
-        Check.due("room", x.undo(), 0);
-        x.room(0, 1, 1, 1, 1, 1);
-        x.need(0, -1);
-        Check.due("need that changes nothing", x.undo(), 1);
-        x.plug(0, 0);
-        Check.due("plug", x.undo(), 1);
-        Check.due("is undone", x.unplug(0), Check.NOT_POSSIBLE);
-        x.limit(1, 2);
-        x.limit(1, 4);
-        Check.due("limit", x.undo(), 2);
-        Check.due("limit is undone", x.count(21), 2);
-        x.undo();
-        x.plug(0, 0);
-        x.wake(0);
-        Check.due("wake", x.undo(), 2);
-        Check.due("nothing paid", x.energy(0, 0), 0);
-        x.unplug(0);
-        Check.due("unplug", x.undo(), 2);
-        Check.due("plugged again", x.roomOf(0, 3), 0);
-        x.wake(0);
-        x.tick(1);
-        x.sleep(0);
-        Check.due("sleep", x.undo(), 3);
-        Check.due("awake", x.roomOf(0, 1), 2);
-        x.use(0, 7, 1);
-        x.drop(0);
-        Check.due("drop", x.undo(), 3);
-        Check.due("planned again", x.useOf(0, 1), 7);
-    }
-
-    /** Rooms in all states, of which room 0 has begun three uses, and room 4 needs room 1. */
-    private static WokenRooms busyChip() {
-        WokenRooms x = new WokenRooms();
-        for (int i = 0; i < 6; i++) {
-            Check.plugged(x, i % 2, 2 + i);
-        }
-        x.room(1, 77, 20, 49, 48, 19);
-        x.need(4, 1);
-        x.limit(0, 3);
-        x.policy(0, 90, 2);
-        x.policy(4, 30, 1);
-        x.use(0, 0, 2);
-        x.use(0, 6, 2);
-        x.use(0, 11, 9);
-        x.use(3, 40, 1);
-        x.use(4, 50, 2);
-        x.wake(1);
-        x.tick(14);
-        x.wake(2);
-        x.wake(3);
-        return x;
-    }
-
-    /** All that can be asked of a chip but the states in its history. */
-    private static String allOf(WokenRooms x) {
-        StringBuilder out = new StringBuilder();
-        for (int room = 0; room < 8; room++) {
-            for (int what = 0; what < 14; what++) {
-                out.append(x.roomOf(room, what)).append(' ');
-                out.append(x.costOf(room, what)).append(' ');
-                out.append(x.energy(room, what)).append(' ');
-            }
-            out.append(x.lateBits(room)).append(' ').append(x.beginsIn(room)).append('\n');
-        }
-        for (int number = 0; number < 12; number++) {
-            for (int what = 0; what < 4; what++) {
-                out.append(x.useOf(number, what)).append(' ');
-            }
-        }
-        for (int what = 0; what < 22; what++) {
-            out.append(what == 10 ? 0 : x.count(what)).append(' ');
-        }
-        return out.append(x.pluggedAt(0, 2)).append(' ').append(x.pluggedAt(1, 2)).toString();
-    }
-
-    private static int change(WokenRooms x, int which) {
-        switch (which) {
-            case 0:
-                return x.room(1, 2, 3, 4, 5, 6);
-            case 1:
-                return x.need(4, 3);
-            case 2:
-                return x.plug(6, 1);
-            case 3:
-                return x.unplug(4);
-            case 4:
-                return x.limit(1, 4);
-            case 5:
-                return x.policy(2, 4, 1);
-            case 6:
-                return x.use(5, x.count(2) + 20, 7);
-            case 7:
-                return x.drop(0);
-            case 8:
-                return x.wake(4);
-            case 9:
-                return x.sleep(1);
-            case 10:
-                return x.tick(60);
-            default:
-                return x.play();
-        }
-    }
-
-    /** Each kind of change, undone on a chip whose history is full. */
-    private static void promise25AllIsRestored() {
-        for (int which = 0; which < 12; which++) {
-            WokenRooms x = busyChip();
-            Check.write(x, "t200;u2,3,4;");
-            String before = allOf(x);
-            Check.due("change " + which + " is possible", change(x, which) >= 0 ? 1 : 0, 1);
-            Check.due("change " + which + " changes something", before.equals(allOf(x)) ? 1 : 0, 0);
-            Check.due("undo of change " + which, x.undo(), 3);
-            Check.due("change " + which + " is undone", before.equals(allOf(x)) ? 1 : 0, 1);
-        }
-    }
-
-    /** Changes in a row, undone one by one up to the fourth. */
-    private static void promise25OneByOne() {
-        for (int first = 0; first < 12; first++) {
-            WokenRooms x = busyChip();
-            Check.write(x, "t1;u2,3,4;");
-            String[] before = new String[6];
-            int[] possible = {first, 4, 5, 6, 10};
-            for (int i = 0; i < possible.length; i++) {
-                before[i] = allOf(x);
-                Check.due("change " + possible[i], change(x, possible[i]) >= 0 ? 1 : 0, 1);
-            }
-            for (int i = possible.length - 1; i > 0; i--) {
-                Check.due("undo " + i, x.undo(), i - 1);
-                Check.due("undone " + i, before[i].equals(allOf(x)) ? 1 : 0, 1);
-            }
-            Check.due("the oldest one was dropped", x.undo(), Check.NOT_POSSIBLE);
-        }
-    }
-
-    /** The gap and the end of the latest use are restored, by which the guess 2 calls. */
-    private static void promise25Guess() {
-        WokenRooms x = new WokenRooms();
-        Check.plugged(x, 0, 2);
-        x.policy(0, 0, 2);
-        x.use(0, 0, 2);
-        x.use(0, 10, 2);
-        x.tick(12);
-        Check.due("uses from 2 to 4 and from 10 to 12", x.roomOf(0, 13), 6);
-        x.use(0, 12, 3);
-        x.tick(1);
-        Check.due("a third begins", x.roomOf(0, 13), 0);
-        x.undo();
-        Check.due("it is undone", x.roomOf(0, 13), 6);
-        x.undo();
-        x.sleep(0);
-        x.tick(4);
-        Check.due("called at 12 + 6 - 2", x.roomOf(0, 12), 1);
-        x.tick(1);
-        Check.due("and woken", x.roomOf(0, 1), 1);
-    }
-
-    /** A room whose number belonged to one that is undone has nothing of that one. */
-    private static void promise25RoomAgain() {
-        WokenRooms x = new WokenRooms();
-        Check.plugged(x, 0, 1);
-        x.room(0, 9, 9, 9, 9, 9);
-        Check.write(x, "t1;");
+        Check.plugged(x, 0, 4);
+        Check.plugged(x, 0, 7);
         x.need(1, 0);
-        x.policy(1, 9, 2);
-        x.undo();
-        x.undo();
-        x.undo();
-        Check.due("the same number", x.room(1, 1, 2, 3, 4, 5), 1);
-        Check.due("kind", x.roomOf(1, 0), 1);
-        Check.due("needs none", x.roomOf(1, 2), Check.NOT_FOUND);
-        Check.due("no time-out", x.roomOf(1, 6), 0);
-        Check.due("no guess", x.roomOf(1, 7), 0);
-        Check.due("its own costs", x.costOf(1, 4), 5);
+        x.use(1, 5, 1);
+        Check.due("both are woken when it is due", x.beginsIn(1), 5 + 4 + 7);
+        x.policy(1, 0, 1);
+        Check.due("both are woken ahead", x.beginsIn(1), 4 + 7);
+        x.wake(0);
+        Check.due("one is waking already", x.beginsIn(1), 4 + 7);
+        x.tick(4);
+        Check.due("one is awake", x.beginsIn(1), 7);
         WokenRooms y = new WokenRooms();
-        y.room(0, 9, 2, 9, 9, 9);
-        y.plug(0, 0);
-        y.policy(0, 9, 2);
-        Check.write(y, "u0,0,2;u0,9,3;t20;t200;w0;");
-        Check.due("used twice and woken again", y.play(), 5);
-        Check.due("used twice", y.roomOf(0, 9), 2);
-        for (int left = 3; left >= 0; left--) {
-            Check.due("undo", y.undo(), left);
+        Check.plugged(y, 0, 20);
+        y.use(0, 280, 1);
+        Check.due("in the last of 300 ticks, and 1", y.beginsIn(0), Check.NOT_FOUND);
+        y.tick(1);
+        Check.due("in the last of 300 ticks", y.beginsIn(0), 299);
+        y.tick(1);
+        Check.due("in the one ahead", y.beginsIn(0), 298);
+        y.use(0, 300, 1);
+        Check.due("of the first use", y.beginsIn(0), 298);
+        y.use(0, 2, 1);
+        Check.due("of one that is due earlier", y.beginsIn(0), 20);
+        y.tick(21);
+        Check.due("it has begun: of the next one", y.beginsIn(0), 280 - 23);
+        WokenRooms z = new WokenRooms();
+        Check.plugged(z, 0, 1);
+        z.wake(0);
+        z.use(0, 1, 50);
+        z.use(0, 2, 9);
+        z.tick(2);
+        Check.due("behind the use of now", z.beginsIn(0), 49);
+        z.tick(49);
+        Check.due("in the next tick", z.beginsIn(0), 0);
+    }
+
+    /** What is told ahead is what comes when the ticks go by. */
+    private static void forecastsAreTrue() {
+        for (int ticks = 1; ticks <= 200; ticks += 7) {
+            WokenRooms x = Chips.busy();
+            int paid = x.count(7);
+            int late = x.count(9);
+            int aheadPaid = x.ahead(ticks, 0);
+            int aheadLate = x.ahead(ticks, 1);
+            int aheadBegun = x.ahead(ticks, 2);
+            int begins = x.beginsIn(3);
+            int begun = x.roomOf(3, 9);
+            Check.due("begun", x.tick(ticks), aheadBegun);
+            Check.due("paid", x.count(7) - paid, aheadPaid);
+            Check.due("late", x.count(9) - late, aheadLate);
+            Check.due("begins in", x.roomOf(3, 9) > begun ? 1 : 0, begins < ticks ? 1 : 0);
         }
-        y.clearText();
-        y.room(1, 5, 5, 5, 5, 5);
-        WokenRooms fresh = new WokenRooms();
-        fresh.room(1, 5, 5, 5, 5, 5);
-        Check.due("like a new one", allOf(y).equals(allOf(fresh)) ? 1 : 0, 1);
     }
 }
