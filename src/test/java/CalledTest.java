@@ -166,19 +166,24 @@ public final class CalledTest {
 
     /** "if two uses of it have begun already" */
     private static void noGuessByOneUse() {
-        WokenRooms x = one(2, 2);
-        x.wake(0);
-        x.tick(2);
-        x.use(0, 2, 3);
-        x.tick(3);
-        x.use(0, 40, 1);
-        for (int time = 5; time < 40; time++) {
-            dueCalled("one has begun, another one is planned", x, false);
-            Check.due("no gap", x.roomOf(0, 13), Check.NOT_FOUND);
+        int[] begins = {2, 3, 10, 20};
+        for (int begin : begins) {
+            WokenRooms x = one(2, 2);
+            x.wake(0);
+            x.use(0, begin, 3);
+            x.use(0, 60, 1);
+            x.tick(begin + 3);
+            Check.due("one has begun, another one is planned", x.roomOf(0, 9), 1);
+            for (int time = begin + 3; time < 60; time++) {
+                dueCalled("one has begun", x, false);
+                Check.due("no gap", x.roomOf(0, 13), Check.NOT_FOUND);
+                x.tick(1);
+            }
             x.tick(1);
+            Check.due("a gap behind the second", x.roomOf(0, 13), 60 - begin - 3);
+            x.tick(60 - begin - 3 - 2);
+            dueCalled("two have begun", x, true);
         }
-        x.tick(1);
-        Check.due("a gap behind the second", x.roomOf(0, 13), 35);
     }
 
     /** "the gap is the time at which its latest use began less the end of the one before" */

@@ -3,9 +3,13 @@ public final class EnergyTest {
     public static void main(String[] args) {
         promise17Energy();
         promise18ShareBits();
+        promise18LargeNumbers();
+        promise18FromNothingOn();
         promise19LateBits();
+        promise19EachLateness();
         promise20WorthBits();
         promise21Count();
+        promise20AwakeNextToAsleep();
         promise21EightRooms();
         Check.end();
     }
@@ -65,6 +69,57 @@ public final class EnergyTest {
         Check.dueBits("a small share", x.shareBits(), (float) (350.0 / x.count(7)));
     }
 
+    /** "both are made doubles": what was paid has more digits than a float here. */
+    private static void promise18LargeNumbers() {
+        WokenRooms x = new WokenRooms();
+        x.limit(0, 4);
+        x.limit(1, 4);
+        for (int i = 0; i < 8; i++) {
+            x.room(i % 2, 499, 1, 49, 50, 0);
+            x.plug(i, i % 2);
+            x.wake(i);
+        }
+        x.tick(1);
+        x.use(0, 1, 50);
+        x.use(1, 7, 33);
+        Check.passTo(x, 49900);
+        int byFloats = 0;
+        for (int i = 0; i < 40; i++) {
+            x.tick(1);
+            int used = x.energy(0, 1) + x.energy(1, 1);
+            int all = x.count(7);
+            Check.holds("more than a float holds", all > 1 << 24);
+            Check.dueBits("share of " + all, x.shareBits(), (float) ((double) used / (double) all));
+            byFloats += Float.floatToIntBits((float) used / (float) all) == x.shareBits() ? 0 : 1;
+        }
+        Check.holds("floats would answer others", byFloats > 0);
+    }
+
+    /** "NOT_FOUND if nothing was paid": the first energy that is paid, by each of the four ways. */
+    private static void promise18FromNothingOn() {
+        int[][] costs = {{1, 1, 0, 0}, {0, 1, 0, 0}, {0, 1, 1, 0}, {0, 1, 0, 1}};
+        for (int way = 0; way < 4; way++) {
+            WokenRooms x = new WokenRooms();
+            x.room(0, costs[way][0], 1, costs[way][1], costs[way][2], costs[way][3]);
+            x.plug(0, 0);
+            Check.due("nothing was paid", x.shareBits(), Check.NOT_FOUND);
+            if (way < 3) {
+                x.wake(0);
+            }
+            if (way == 1 || way == 2) {
+                Check.due("nothing was paid", x.shareBits(), Check.NOT_FOUND);
+                x.use(0, way, 1);
+                x.tick(1);
+                Check.due("nothing was paid", x.shareBits(), Check.NOT_FOUND);
+            }
+            if (way > 0) {
+                x.tick(1);
+            }
+            Check.due("1 was paid", x.count(7), 1);
+            Check.dueBits("way " + way, x.shareBits(), way == 1 ? 1f : 0f);
+        }
+    }
+
     private static void promise19LateBits() {
         WokenRooms x = new WokenRooms();
         Check.plugged(x, 0, 1);
@@ -89,6 +144,30 @@ public final class EnergyTest {
         Check.ticks(x, 400);
         Check.due("late", x.roomOf(0, 10), 520);
         Check.dueBits("520 of 8", x.lateBits(0), 520f / 8f);
+    }
+
+    /** Room 1 is of no account: one use of it begins late. */
+    private static void promise19EachLateness() {
+        for (int wakeTime = 1; wakeTime <= 20; wakeTime++) {
+            WokenRooms x = new WokenRooms();
+            Check.plugged(x, 0, wakeTime);
+            Check.plugged(x, 1, 7);
+            x.use(0, 0, 1);
+            x.use(1, 0, 1);
+            Check.due("none has begun", x.lateBits(0), Check.NOT_FOUND);
+            x.tick(wakeTime);
+            Check.due("none has begun yet", x.lateBits(0), Check.NOT_FOUND);
+            x.tick(1);
+            Check.dueBits("of one", x.lateBits(0), (float) wakeTime);
+            int late = wakeTime;
+            for (int begun = 3; begun <= 7; begun += 2) {
+                x.use(0, x.count(2), 3);
+                x.use(0, x.count(2), 3);
+                x.tick(6);
+                late += 3;
+                Check.dueBits("of " + begun, x.lateBits(0), (float) late / (float) begun);
+            }
+        }
     }
 
     private static void promise20WorthBits() {
@@ -148,6 +227,25 @@ public final class EnergyTest {
         int[] wrong = {-1, 12, 13, 19, 22, Integer.MAX_VALUE, Integer.MIN_VALUE};
         for (int what : wrong) {
             Check.due("count " + what, x.count(what), Check.INVALID);
+        }
+    }
+
+    /** "NOT_FOUND if a tick awake costs no more than one asleep" */
+    private static void promise20AwakeNextToAsleep() {
+        for (int asleep = 0; asleep <= 20; asleep++) {
+            WokenRooms x = new WokenRooms();
+            x.room(0, 7, 1, 1, asleep, asleep);
+            x.room(1, 7, 1, 50, asleep + 1, asleep);
+            x.room(0, 500, 20, 1, asleep + 7, asleep);
+            x.room(0, 0, 1, 1, asleep + 1, asleep);
+            Check.due("no more", x.worthBits(0), Check.NOT_FOUND);
+            Check.dueBits("1 more", x.worthBits(1), 7f);
+            Check.dueBits("7 more", x.worthBits(2), 500f / 7f);
+            Check.dueBits("waking costs nothing", x.worthBits(3), 0f);
+            if (asleep > 0) {
+                x.room(0, 7, 1, 1, asleep - 1, asleep);
+                Check.due("less", x.worthBits(4), Check.NOT_FOUND);
+            }
         }
     }
 

@@ -94,6 +94,17 @@ public final class ForecastTest {
         // With the time-out 1 it is awake for 1 tick behind the use, then asleep.
         Check.due("best", x.bestTimeOut(0, 200, 0), 1);
         Check.due("best energy", x.bestTimeOut(0, 200, 1), 10 + 15 + 3 + 194);
+        WokenRooms y = new WokenRooms();
+        Check.plugged(y, 0, 20);
+        Check.passTo(y, 49990);
+        y.use(0, 49995, 40);
+        Check.due("awake at 50015", y.beginsIn(0), 25);
+        Check.due("begins", y.ahead(26, 2), 1);
+        Check.due("not earlier", y.ahead(25, 2), 0);
+        Check.due("late", y.ahead(26, 1), 20);
+        Check.due("paid up to 50000", y.ahead(10, 0), 5 + 10);
+        Check.due("paid beyond", y.ahead(200, 0), 5 + 10 + 40 * 5 + 135 * 3);
+        Check.due("the time-out beyond", y.bestTimeOut(0, 200, 1), 5 + 10 + 40 * 5 + 3 + 134);
     }
 
     private static void promise23BestTimeOut() {

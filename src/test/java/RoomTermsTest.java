@@ -22,6 +22,7 @@ public final class RoomTermsTest {
         twelveUsesAtATime();
         theFirstUse();
         theFirstUseOfSeveral();
+        thereAndBack();
         Check.end();
     }
 
@@ -373,5 +374,32 @@ public final class RoomTermsTest {
             }
         }
         Check.due("none is left", x.count(1), 0);
+    }
+
+    /** What is set, or plugged, changes nothing but itself: where it is set back, all is as it was. */
+    private static void thereAndBack() {
+        String before = Check.allOf(Chips.busy());
+        for (int which = 0; which < 6; which++) {
+            WokenRooms x = Chips.busy();
+            Check.holds("it is possible", goThereAndBack(x, which) >= 0);
+            Check.holds("all is as it was " + which, before.equals(Check.allOf(x)));
+        }
+    }
+
+    private static int goThereAndBack(WokenRooms x, int which) {
+        switch (which) {
+            case 0:
+                return Math.min(x.unplug(6), x.plug(6, 0));
+            case 1:
+                return Math.min(x.plug(4, 0), x.unplug(4));
+            case 2:
+                return Math.min(x.need(5, -1), x.need(5, 0));
+            case 3:
+                return Math.min(x.policy(3, 99, 1), x.policy(3, 7, 2));
+            case 4:
+                return Math.min(x.limit(1, 1), x.limit(1, 3));
+            default:
+                return Math.min(x.use(0, 10, 1), x.drop(x.count(1) - 1));
+        }
     }
 }

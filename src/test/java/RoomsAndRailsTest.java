@@ -10,6 +10,7 @@ public final class RoomsAndRailsTest {
         promise6Limit();
         promise7Policy();
         promise8RoomOf();
+        promise8LeftAndIdled();
         promise8Called();
         promise8Gap();
         promise9CostOf();
@@ -26,6 +27,17 @@ public final class RoomsAndRailsTest {
         Check.due("limit 1", x.count(21), 2);
         Check.due("no room", x.roomOf(0, 0), Check.INVALID);
         Check.due("nothing to undo", x.undo(), Check.NOT_POSSIBLE);
+        Check.due("nothing was paid", x.shareBits(), Check.NOT_FOUND);
+        Check.due("no use", x.useOf(0, 0), Check.INVALID);
+        for (int what = 0; what < 3; what++) {
+            Check.due("no fault", x.fault(what), Check.NOT_FOUND);
+            Check.due("nothing ahead", x.ahead(200, what), 0);
+        }
+        for (int rail = 0; rail < 2; rail++) {
+            Check.due("nothing is plugged", x.pluggedAt(rail, 0), Check.NOT_FOUND);
+        }
+        Check.due("the text is empty", x.clearText(), 0);
+        Check.due("there are no orders", x.play(), 0);
     }
 
     private static void promise2Room() {
@@ -210,6 +222,40 @@ public final class RoomsAndRailsTest {
         Check.due("idles no more", x.roomOf(0, 5), 0);
         x.wake(0);
         Check.due("woken twice", x.roomOf(0, 11), 2);
+    }
+
+    /** "the ticks left while it is waking or in use, otherwise 0", "idled, while it is awake, otherwise 0" */
+    private static void promise8LeftAndIdled() {
+        WokenRooms x = new WokenRooms();
+        Check.plugged(x, 0, 5);
+        dueLeftAndIdled(x, "asleep", 0, 0);
+        x.wake(0);
+        dueLeftAndIdled(x, "waking", 5, 0);
+        x.tick(4);
+        dueLeftAndIdled(x, "waking", 1, 0);
+        x.tick(1);
+        dueLeftAndIdled(x, "awake", 0, 0);
+        x.tick(6);
+        dueLeftAndIdled(x, "awake", 0, 6);
+        x.use(0, 11, 3);
+        x.tick(1);
+        dueLeftAndIdled(x, "in use", 2, 0);
+        x.tick(2);
+        dueLeftAndIdled(x, "awake", 0, 0);
+        x.tick(4);
+        dueLeftAndIdled(x, "awake", 0, 4);
+        x.sleep(0);
+        dueLeftAndIdled(x, "asleep", 0, 0);
+        x.wake(0);
+        dueLeftAndIdled(x, "waking", 5, 0);
+        x.policy(0, 2, 0);
+        x.tick(7);
+        dueLeftAndIdled(x, "asleep by its time-out", 0, 0);
+    }
+
+    private static void dueLeftAndIdled(WokenRooms x, String when, int left, int idled) {
+        Check.due("left, " + when, x.roomOf(0, 4), left);
+        Check.due("idled, " + when, x.roomOf(0, 5), idled);
     }
 
     private static void promise8Called() {

@@ -152,19 +152,19 @@ public final class TextTermsTest {
     /** "a text of at most 60 characters": the last of them count. */
     private static void theLastCharacters() {
         String orders = "t1;t1;t1;t1;t1;t1;t1;t1;t1;t1;t1;t1;t1;t1;t1;t1;t1;t1;";
+        dueFine(new WokenRooms(), orders + "t1;t1;");
+        dueFine(new WokenRooms(), orders + "t001;");
+        dueBadForm(new WokenRooms(), orders + "t001;t", 59);
+        dueBadForm(new WokenRooms(), orders + "t001;;", 59);
+        dueBadForm(new WokenRooms(), orders + "t01;t1", 58);
+        dueBadForm(new WokenRooms(), orders + "t1;t01", 57);
+        dueBadForm(new WokenRooms(), orders + "t1;t1:", 57);
+        dueBadForm(new WokenRooms(), orders + "t00001", 54);
+        dueRefused(new WokenRooms(), orders + "t1;t0;", 57, Check.INVALID);
         WokenRooms x = new WokenRooms();
-        dueFine(x, orders + "t1;t1;");
-        Check.due("a 61st", x.type(';'), Check.LIMIT);
-        dueFine(x, orders + "t001;");
-        dueBadForm(x, orders + "t001;t", 59);
-        dueBadForm(x, orders + "t001;;", 59);
-        dueBadForm(x, orders + "t01;t1", 58);
         dueBadForm(x, orders + "t1;t01", 57);
-        dueRefused(x, orders + "t1;t0;", 57, Check.INVALID);
-        dueBadForm(x, orders + "t1;t1:", 57);
-        dueBadForm(x, orders + "t00001", 54);
-        Check.due("a 61st", x.type(';'), Check.LIMIT);
-        dueBadForm(x, orders + "t00001", 54);
+        Check.due("a 61st, which would mend it", x.type(';'), Check.LIMIT);
+        Check.due("the fault is there still", x.fault(0), 57);
         dueFine(x, "");
         dueBadForm(x, ";", 0);
         dueBadForm(x, " ", 0);
