@@ -32,6 +32,7 @@ final class Chips {
         x.need(6, 1);
         x.policy(2, 90, 1);
         x.policy(3, 7, 2);
+        x.policy(6, 40, 2);
         x.wake(2);
         x.wake(3);
         x.use(3, 3, 2);

@@ -11,6 +11,7 @@ public final class HistoryTest {
         atMostFourStates();
         changesBehindUndos();
         theTextIsNotRecorded();
+        settingTheSameIsAChange();
         othersAreNoChanges();
         theLastOf512Calls();
         Check.end();
@@ -234,6 +235,22 @@ public final class HistoryTest {
         x.undo();
         Check.due("the text is empty", x.count(11), 0);
         Check.due("time", x.count(2), 0);
+    }
+
+    /** A call that sets what was set already returns no error: it is a change. */
+    private static void settingTheSameIsAChange() {
+        for (int which = 0; which < 3; which++) {
+            WokenRooms x = new WokenRooms();
+            x.room(0, 1, 1, 1, 1, 1);
+            x.room(0, 1, 1, 1, 1, 1);
+            for (int times = 0; times < 2; times++) {
+                int before = which == 0 ? x.need(1, 0) : which == 1 ? x.limit(0, 2) : x.policy(0, 7, 1);
+                Check.due("before", before, which == 0 ? times : which == 1 ? 2 : 71 * times);
+                Check.due("states", x.count(10), 3 + times);
+            }
+            Check.due("undo", x.undo(), 3);
+            Check.due("set still", x.roomOf(1, 2) + x.count(20) + x.roomOf(0, 6), which == 0 ? 2 : which == 1 ? -2 : 5);
+        }
     }
 
     /** The calls of undo, type and clearText, and all questions, are no changes. */

@@ -21,6 +21,7 @@ public final class TickTermsTest {
         timeOuts();
         aTimeOutThatIsLessThanTheIdling();
         noTimeOutInAUse();
+        aCalledRoomFallsAsleepToo();
         timeOutsOfTheNeeded();
         theLowerOneComesFirst();
         fallsAsleepWhereItIsNotNeeded();
@@ -331,6 +332,38 @@ public final class TickTermsTest {
         Check.due("waking is not idling", y.roomOf(0, 1), AWAKE);
         y.tick(1);
         Check.due("idled for 1", y.roomOf(0, 1), ASLEEP);
+    }
+
+    /** The guesses do not keep a room awake: the guess 1 wakes it again in the next tick, the guess 2 does not. */
+    private static void aCalledRoomFallsAsleepToo() {
+        WokenRooms x = rooms(3);
+        x.policy(0, 4, 1);
+        x.use(0, 9, 1);
+        x.wake(0);
+        x.tick(6);
+        Check.due("called, and awake", x.roomOf(0, 12) + 10 * x.roomOf(0, 1), 1 + 10 * AWAKE);
+        x.tick(1);
+        Check.due("called, and asleep", x.roomOf(0, 12) + 10 * x.roomOf(0, 1), 1 + 10 * ASLEEP);
+        x.tick(1);
+        Check.due("woken again", x.roomOf(0, 1) + 10 * x.roomOf(0, 11), WAKING + 20);
+        x.tick(3);
+        Check.due("late", x.roomOf(0, 10), 1);
+        WokenRooms y = rooms(1);
+        y.wake(0);
+        y.use(0, 1, 1);
+        y.use(0, 7, 1);
+        y.policy(0, 5, 2);
+        y.tick(6);
+        y.policy(0, 0, 2);
+        y.tick(2);
+        y.policy(0, 5, 2);
+        // The gap is 5, so that the guess calls at 8 + 5 - 1, when it has idled for 4.
+        y.tick(4);
+        Check.due("called, and awake", y.roomOf(0, 12) + 10 * y.roomOf(0, 1), 1 + 10 * AWAKE);
+        y.tick(1);
+        Check.due("asleep", y.roomOf(0, 12) + 10 * y.roomOf(0, 1), 10 * ASLEEP);
+        y.tick(9);
+        Check.due("woken once", y.roomOf(0, 11), 1);
     }
 
     /** "and all rooms that need it are asleep": room 0 has the time-out 2; rooms 1 and 2 need it, in some states. */
