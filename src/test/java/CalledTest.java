@@ -114,7 +114,7 @@ public final class CalledTest {
         }
     }
 
-    /** Two uses begun, with a gap between; the second one, begun in the tick ahead, has the end that is told by endOf. */
+    /** Two uses have begun, with a gap between, the second one in the latest tick; endOf tells its end. */
     private static WokenRooms usedTwice(int wakeTime, int gap, int length) {
         WokenRooms x = one(wakeTime, 2);
         x.wake(0);

@@ -106,7 +106,8 @@ public final class FormTest {
         }
         String[] ruledOut = {"\\bpackage\\b", "\\bfinally\\b", "\\bassert\\b", "\\bsynchronized\\b", "\\bprotected\\b",
             "(?m)^(?!\\s*(case|default)\\b).*->", "::", "\\bFloat\\b", "\\bDouble\\b", "\\bThread\\b", "\\bhashCode\\b",
-            "\\bgetMessage\\b", "Exact\\b", "System\\.(?!arraycopy\\b)", "\\bjava\\.(?!util\\.)", "\\bjava\\.util\\.\\*",
+            "\\bgetMessage\\b", "Exact\\b", "System\\.(?!arraycopy\\b)", "\\bjava\\.(?!util\\.)",
+            "\\bjava\\.util\\.\\*",
             "while *\\(true", "for *\\(;;", "\\bArrayIndexOutOfBoundsException\\b", "\\bNullPointerException\\b",
             "\\bClassCastException\\b", "\\bNegativeArraySizeException\\b", "\\bArrayStoreException\\b",
             "\\bThrowable\\b", "catch *\\( *(final )?Exception\\b"};

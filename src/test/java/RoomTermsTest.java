@@ -151,7 +151,8 @@ public final class RoomTermsTest {
             for (int rail = 0; rail < 2; rail++) {
                 WokenRooms x = new WokenRooms();
                 x.room(kind, 1, 1, 1, 1, 1);
-                Check.due("kind " + kind + " into rail " + rail, x.plug(0, rail), kind == rail ? 1 : Check.NOT_POSSIBLE);
+                int due = kind == rail ? 1 : Check.NOT_POSSIBLE;
+                Check.due("kind " + kind + " into rail " + rail, x.plug(0, rail), due);
                 Check.due("its rail", x.roomOf(0, 3), kind == rail ? rail : Check.NOT_FOUND);
                 Check.due("its kind", x.roomOf(0, 0), kind);
             }
